@@ -20,7 +20,7 @@ public final class ModelTest {
     }
 
     public static void main(String[] args) {
-        int runs = args.length > 0 ? Integer.parseInt(args[0]) : 300;
+        int runs = args.length > 0 ? Integer.parseInt(args[0]) : 500;
         int from = args.length > 1 ? Integer.parseInt(args[1]) : 0;
         int[] heard = new int[CALLS.length];
         for (int seed = from; seed < from + runs; seed++) {
@@ -48,7 +48,35 @@ public final class ModelTest {
                 return false;
             }
         }
-        return everything();
+        for (int i = 0; i < (m.woods.isEmpty() ? 0 : 60); i++) {
+            if (!act(CALLS[12 + random.nextInt(6)], anyTimber())) {
+                return false;
+            }
+        }
+        return everything() && undone();
+    }
+
+    /** One act after the other is taken back, till none is left. */
+    private boolean undone() {
+        for (int k = 0; k < 41; k++) {
+            if (!alike("undo()", x::undo, m::undo)) {
+                return false;
+            }
+            for (int t = 0; t < m.woods.size(); t++) {
+                int timber = t;
+                for (int i = -1; i < m.told(t, -1); i++) {
+                    int sign = i;
+                    if (!alike("told(" + t + ", " + i + ")", () -> x.told(timber, sign), () -> m.told(timber, sign))) {
+                        return false;
+                    }
+                }
+                if (!alike("year of " + t, () -> x.timber(timber, 4), () -> m.timber(timber, 4))
+                        || !alike("house of " + t, () -> x.timber(timber, 11), () -> m.timber(timber, 11))) {
+                    return false;
+                }
+            }
+        }
+        return true;
     }
 
     /** All that can be asked, once more at the end. */

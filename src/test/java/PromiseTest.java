@@ -169,6 +169,11 @@ public final class PromiseTest {
         dueFault("timber 0 0 1 1 1;house 0 3;", 0, NONE);
         dueFault("timber 0 0 1 1 1;house 0 4;", 2, 25);
         dueFault("timber 0 0 1 1 1;house 1 0;", 3, 23);
+        dueFault("timber 0 0 1 1 1;house 8 0;", 2, 23);
+        dueFault("timber 0 0 1 1 1;".repeat(8) + "known 7 0;house 7 3;", 0, NONE);
+        dueFault("margin 0055;", 2, 7);
+        dueFault("timber 0 0 1 1 0055;", 2, 15);
+        dueFault("timber 000 030 001 01 099;", 0, NONE);
         dueFault("known 0 0;timber 0 0 1 1 1;", 3, 6);
     }
 
@@ -186,6 +191,9 @@ public final class PromiseTest {
         dueFault("timber", 1, 6);
         dueFault("timbers 0 0 1 2 3;", 1, 0);
         dueFault("timbe 0 0 1 2 3;", 1, 0);
+        dueFault("timberz 0 0 1 2 3;", 1, 0);
+        dueFault("map 3;", 1, 0);
+        dueFault("lap 3z;", 1, 5);
         dueFault("Timber 0 0 1 2 3;", 1, 0);
         dueFault("bound bound", 1, 6);
         dueFault(";", 1, 0);
@@ -319,6 +327,9 @@ public final class PromiseTest {
         due("fit 94 (that of slid by 2)", fits.timber(1, 10), 94);
         fits.date(1, 200);
         due("fit without pairs", fits.timber(1, 10), 0);
+        fits.date(1, 104);
+        // one pair, 15 on 25: no step in both, the ranks are 0 and 1: 75, by 3
+        due("fit of one pair", fits.timber(1, 10), 25);
     }
 
     private static void whyUnsettled() {
@@ -410,6 +421,10 @@ public final class PromiseTest {
         due("least", x.index(Integer.MIN_VALUE), NONE);
         due("greatest", x.index(Integer.MAX_VALUE), NONE);
         due("none", new RingDater().index(-1), NONE);
+        RingDater all = Tape.of("timber 0 0 1 2 3;timber 0 0" + " 2 2".repeat(12) + ";known 0 0;known 1 900;");
+        due("the first year of all", all.index(0), 500);
+        due("the last year of all", all.index(923), 1000);
+        due("behind it", all.index(924), NONE);
     }
 
     private static void depth() {
@@ -440,6 +455,13 @@ public final class PromiseTest {
         due("13 isn't one", x.count(13), 2);
         x.date(2, NONE);
         due("two are too few", x.count(13), 0);
+        RingDater last = Tape.of("timber 0 0 5 5 9;timber 0 0 5 5 8;timber 0 0 5 5 7;known 0 0;known 1 0;known 2 0;");
+        due("the last year alone", last.count(13), 1);
+        due("is 2", last.pointer(0, 0), 2);
+        due("rises", last.pointer(0, 1), 1);
+        RingDater three = Tape.of("timber 0 0 5 4 9;timber 0 0 5 4 8;timber 0 0 5 4 7;timber 0 0 5 6 9;"
+                + "known 0 0;known 1 0;known 2 0;known 3 0;");
+        due("three of four fall", three.pointer(0, 0) * 10 + three.pointer(0, 1), 9);
     }
 
     private static void slid() {
@@ -774,16 +796,37 @@ public final class PromiseTest {
         due("undo is never counted", x.count(20), 0);
     }
 
-    private static void fortyActs() {
-        RingDater x = Tape.of(TWO);
-        for (int year = 1; year <= 45; year++) {
-            x.date(1, year);
+    /** The rings, years and houses of two timbers as a text. */
+    private static String state(RingDater x) {
+        StringBuilder state = new StringBuilder();
+        for (int t = 0; t < 2; t++) {
+            for (int i = 0; i < x.told(t, NONE); i++) {
+                state.append((char) x.told(t, i));
+            }
+            state.append(" year ").append(x.timber(t, 4)).append(" house ").append(x.timber(t, 11)).append('\n');
         }
-        due("forty are kept", x.count(16), 40);
+        return state.toString();
+    }
+
+    private static void fortyActs() {
+        RingDater x = Tape.of("timber 0 2 10 20 15 30 25;timber 1 3 15 30 25 9;known 0 100;");
+        String[] states = new String[46];
+        for (int k = 0; k < 45; k++) {
+            states[k] = state(x);
+            switch (k % 5) {
+                case 0 -> x.date(0, k);
+                case 1 -> x.doubt(k % 2, k % 3);
+                case 2 -> x.move(k / 5 % 2, k % 4 == x.timber(k / 5 % 2, 11) ? 3 - k % 4 : k % 4);
+                case 3 -> x.mend(1, 1 + k % 3, true);
+                default -> x.mend(1, 1 + (k - 1) % 3, false);
+            }
+            due("acts kept", x.count(16), Math.min(k + 1, 40));
+        }
+        due("none was refused", x.count(20), 0);
         for (int left = 39; left >= 0; left--) {
             due("left", x.undo(), left);
+            due("as it was ahead of act " + (left + 5), state(x).equals(states[left + 5]) ? 1 : 0, 1);
         }
-        due("the latest ones", x.timber(1, 4), 5);
         due("none", x.undo(), NONE);
     }
 
@@ -926,7 +969,33 @@ public final class PromiseTest {
         due("the tape isn't kept", x.count(18), 20);
     }
 
+    /** Acts of many kinds come between: each that is kept is taken back rightly. */
+    private static void restoredActs() {
+        RingDater x = Tape.of("timber 0 2 10 20 15 30 25;timber 1 3 15 30? 25 9;known 0 100;");
+        String[] states = new String[4];
+        states[0] = state(x);
+        x.mend(1, 1, false);
+        states[1] = state(x);
+        x.date(0, 44);
+        states[2] = state(x);
+        x.move(1, 2);
+        states[3] = state(x);
+        x.image();
+        for (int k = 0; k < 3; k++) {
+            x.undo();
+        }
+        x.doubt(0, 2);
+        x.move(0, 1);
+        x.doubt(1, 3);
+        x.restore();
+        for (int k = 3; k >= 0; k--) {
+            due("as it was ahead of act " + k, state(x).equals(states[k]) ? 1 : 0, 1);
+            x.undo();
+        }
+    }
+
     private static void restore() {
+        restoredActs();
         RingDater x = Tape.of(TWO);
         due("there is none", x.restore() ? 1 : 0, 0);
         x.mend(1, 1, true);

@@ -622,7 +622,7 @@ public final class RingDater {
     private int countPointers() {
         layChronology();
         int pointers = 0;
-        for (int year = bench.first; year <= bench.last; year++) {
+        for (int year = Math.max(0, bench.first); year <= bench.last && year < MOST_PLACES; year++) {
             if (stock.pointerStep(year) != 0) {
                 pointers++;
             }
@@ -633,7 +633,7 @@ public final class RingDater {
     private int pointerYear(int i) {
         layChronology();
         int ahead = 0;
-        for (int year = bench.first; year <= bench.last; year++) {
+        for (int year = Math.max(0, bench.first); year <= bench.last && year < MOST_PLACES; year++) {
             if (stock.pointerStep(year) != 0) {
                 if (ahead == i) {
                     return year;

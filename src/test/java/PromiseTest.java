@@ -304,6 +304,18 @@ public final class PromiseTest {
         due("one year, the last", y.count(11), 107);
         RingDater odd = Tape.of("timber 0 0 9 5 7 3 8;timber 0 0 9 5 7 3 8;timber 0 0 1 2 3 4 5;known 0 9;known 1 9;known 2 9;");
         due("the odd one", odd.count(14), 2);
+        due("of like ones the first", Tape.of("timber 0 0 1 2 3;timber 0 0 1 2 3;known 0 9;known 1 9;").count(14), 0);
+        RingDater second = Tape.of("timber 5 6 1 2 3;timber 0 9 1 2 3;timber 0 0 1 2 3;known 0 9;known 1 9;");
+        due("the edge is that of 0", second.count(12), 16);
+        due("the last year is that of 0", second.count(11), 17);
+        due("dated bits", second.count(4), 3);
+        second.date(0, NONE);
+        due("dated bits without the first", second.count(4), 2);
+        due("the first year", second.count(5), 9);
+        second.date(1, 100);
+        due("the first year then", second.count(5), 100);
+        second.date(2, 90);
+        due("the last year then", second.count(6), 102);
     }
 
     private static void timber() {
@@ -370,6 +382,9 @@ public final class PromiseTest {
         due("first", x.house(0, 1), 104);
         due("last (0 isn't reused: its most is the edge)", x.house(0, 2), 104);
         due("reused", x.house(0, 3), 0);
+        x.move(0, 3);
+        due("its timbers without 0", x.house(0, 0), 2);
+        x.undo();
         due("house 1", x.house(1, 0), 4);
         due("house 1 first", x.house(1, 1), 110);
         due("house 1 last", x.house(1, 2), 115);
@@ -622,6 +637,11 @@ public final class PromiseTest {
         RingDater none = Tape.of(on + "timber 0 0 " + LONG + ";");
         due("none", none.help(1, 0), 0);
         due("its score", none.help(1, 1), 100);
+        RingDater ahead = Tape.of("lap 3;timber 0 0 9 5 7 3;timber 0 0 8? 9 5 7 3;known 0 200;");
+        due("without ring 0", ahead.help(1, 0), 100);
+        due("its score", ahead.help(1, 1), 100);
+        RingDater early = Tape.of("lap 5;margin 0;timber 0 0 9 1 7 3 8;timber 0 0 9 7 3 8;known 0 200;");
+        due("ahead of ring 1", early.help(1, 0), 201);
         due("another what", () -> none.help(1, 2), NO_SUCH);
         due("what below 0", () -> none.help(1, -1), NO_SUCH);
         due("no such timber", () -> none.help(2, 0), NO_SUCH);

@@ -48,7 +48,7 @@ public final class ModelTest {
                 return false;
             }
         }
-        for (int i = 0; i < (m.woods.isEmpty() ? 0 : 60); i++) {
+        for (int i = 0; i < (m.woods.isEmpty() ? 0 : 110); i++) {
             if (!act(CALLS[12 + random.nextInt(6)], anyTimber())) {
                 return false;
             }

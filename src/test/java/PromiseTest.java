@@ -830,8 +830,8 @@ public final class PromiseTest {
 
     private static void fortyActs() {
         RingDater x = Tape.of("timber 0 2 10 20 15 30 25;timber 1 3 15 30 25 9;known 0 100;");
-        String[] states = new String[46];
-        for (int k = 0; k < 45; k++) {
+        String[] states = new String[43];
+        for (int k = 0; k < 43; k++) {
             states[k] = state(x);
             switch (k % 5) {
                 case 0 -> x.date(0, k);
@@ -845,7 +845,7 @@ public final class PromiseTest {
         due("none was refused", x.count(20), 0);
         for (int left = 39; left >= 0; left--) {
             due("left", x.undo(), left);
-            due("as it was ahead of act " + (left + 5), state(x).equals(states[left + 5]) ? 1 : 0, 1);
+            due("as it was ahead of act " + (left + 3), state(x).equals(states[left + 3]) ? 1 : 0, 1);
         }
         due("none", x.undo(), NONE);
     }

@@ -13,6 +13,7 @@ public final class ModelTest {
     private final Random random;
     private final StringBuilder run = new StringBuilder();
     private final int[] heard;
+    private int asked = 0;
 
     private ModelTest(long seed, int[] heard) {
         random = new Random(seed);
@@ -39,6 +40,7 @@ public final class ModelTest {
         System.out.println("ModelTest: " + runs + " runs are alike");
     }
 
+    /** A run ends in one of three ways: all is asked, all acts are undone, or it just goes on. */
     private boolean runs(int calls) {
         if (!text(RandomTexts.yard(random))) {
             return false;
@@ -48,30 +50,36 @@ public final class ModelTest {
                 return false;
             }
         }
-        for (int i = 0; i < (m.woods.isEmpty() ? 0 : 110); i++) {
-            if (!act(CALLS[12 + random.nextInt(6)], anyTimber())) {
+        int end = random.nextInt(3);
+        for (int i = 0; i < (m.woods.isEmpty() ? 0 : 100); i++) {
+            boolean alike = end == 2 ? oneCall() : act(CALLS[12 + random.nextInt(6)], anyTimber());
+            if (!alike) {
                 return false;
             }
         }
-        return everything() && undone();
+        return end == 0 ? everything() : end == 2 || undone();
     }
 
-    /** One act after the other is taken back, till none is left. */
+    /** One act after the other is taken back, till none is left: one timber is looked at as a whole, the others' years. */
     private boolean undone() {
         for (int k = 0; k < 41; k++) {
-            if (!alike("undo()", x::undo, m::undo)) {
+            int timber = k % Math.max(1, m.woods.size());
+            if (!alike("undo()", x::undo, m::undo) || !alike("dated", () -> x.count(4), () -> m.count(4))
+                    || !alike("house 0", () -> x.house(0, 0), () -> m.house(0, 0))) {
                 return false;
             }
-            for (int t = 0; t < m.woods.size(); t++) {
-                int timber = t;
-                for (int i = -1; i < m.told(t, -1); i++) {
-                    int sign = i;
-                    if (!alike("told(" + t + ", " + i + ")", () -> x.told(timber, sign), () -> m.told(timber, sign))) {
-                        return false;
-                    }
+            for (int what : new int[] {0, 4, 5, 11}) {
+                if (!alike("timber(" + timber + ", " + what + ")", () -> x.timber(timber, what), () -> m.timber(timber, what))) {
+                    return false;
                 }
-                if (!alike("year of " + t, () -> x.timber(timber, 4), () -> m.timber(timber, 4))
-                        || !alike("house of " + t, () -> x.timber(timber, 11), () -> m.timber(timber, 11))) {
+            }
+        }
+        for (int t = 0; t < m.woods.size(); t++) {
+            int timber = t;
+            for (int r = 0; r < m.woods.get(t).rings.size(); r++) {
+                int ring = r;
+                if (!alike("ring(" + t + ", " + r + ")", () -> x.ring(timber, ring, 0), () -> m.ring(timber, ring, 0))
+                        || !alike("doubtful " + t + ", " + r, () -> x.ring(timber, ring, 1), () -> m.ring(timber, ring, 1))) {
                     return false;
                 }
             }
@@ -110,7 +118,12 @@ public final class ModelTest {
         }
     }
 
+    /** Nothing is promised of an object behind its 512th call. */
     private boolean alike(String call, IntSupplier program, IntSupplier model) {
+        asked++;
+        if (asked > 512) {
+            return true;
+        }
         long got = answer(program);
         long due = answer(model);
         run.append("  ").append(call).append(" answered ").append(got);
@@ -242,6 +255,7 @@ public final class ModelTest {
     private boolean rest(String name, int t, int i) {
         switch (name) {
             case "forget":
+                asked++;
                 x.forget();
                 m.forget();
                 run.append("  forget()\n");
@@ -257,6 +271,7 @@ public final class ModelTest {
                 return alike("told(" + t + ", " + sign + ")", () -> x.told(t, sign), () -> m.told(t, sign));
             }
             case "image":
+                asked++;
                 x.image();
                 m.image();
                 run.append("  image()\n");

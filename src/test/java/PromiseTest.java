@@ -1,21 +1,5 @@
-import java.util.NoSuchElementException;
-import java.util.function.IntSupplier;
-
 /** Each promise of the document by its number: ordinary inputs, the edges that it names, wrong inputs. */
-public final class PromiseTest {
-    private static final int NONE = RingDater.NONE;
-    private static final long NO_SUCH = Long.MAX_VALUE;
-    private static final long ILLEGAL = Long.MAX_VALUE - 1;
-    private static int wrong = 0;
-    private static int promise = 0;
-
-    /** Two timbers, the first one known; the second one is its first three rings. */
-    private static final String TWO =
-            "lap 3;margin 0;bound 50;timber 0 2 10 20 15 30 25;timber 1 3 15 30 25;known 0 100;";
-
-    /** Rings that rise and fall as no stretch of them does twice. */
-    private static final String LONG = "10 40 30 35 20 60 70 15 80 25 50 45";
-
+public final class PromiseTest extends Checks {
     private PromiseTest() {
     }
 
@@ -42,7 +26,7 @@ public final class PromiseTest {
         begins(20); mend();
         begins(21); doubt();
         begins(22); move();
-        begins(23); undo(); fortyActs();
+        begins(23); undo();
         begins(24); note();
         begins(25); fits();
         begins(26); look();
@@ -51,37 +35,7 @@ public final class PromiseTest {
         begins(29); told();
         begins(30); image();
         begins(31); restore();
-        System.out.println(wrong == 0 ? "PromiseTest: all is as promised" : "PromiseTest: " + wrong + " wrong");
-        System.exit(wrong == 0 ? 0 : 1);
-    }
-
-    private static void begins(int number) {
-        promise = number;
-    }
-
-    private static void due(String what, long got, long due) {
-        if (got != due) {
-            wrong++;
-            System.out.println("promise " + promise + ", " + what + ": " + got + ", due is " + due);
-        }
-    }
-
-    private static void due(String what, IntSupplier call, long due) {
-        long got;
-        try {
-            got = call.getAsInt();
-        } catch (NoSuchElementException e) {
-            got = NO_SUCH;
-        } catch (IllegalArgumentException e) {
-            got = ILLEGAL;
-        }
-        due(what, got, due);
-    }
-
-    private static void dueFault(String text, int fault, int at) {
-        RingDater x = new RingDater();
-        due("yard " + text, Tape.yard(x, text), fault);
-        due("fault of " + text, x.fault(), at);
+        ends("PromiseTest");
     }
 
     private static void newObject() {
@@ -816,40 +770,6 @@ public final class PromiseTest {
         due("undo is never counted", x.count(20), 0);
     }
 
-    /** The rings, years and houses of two timbers as a text. */
-    private static String state(RingDater x) {
-        StringBuilder state = new StringBuilder();
-        for (int t = 0; t < 2; t++) {
-            for (int i = 0; i < x.told(t, NONE); i++) {
-                state.append((char) x.told(t, i));
-            }
-            state.append(" year ").append(x.timber(t, 4)).append(" house ").append(x.timber(t, 11)).append('\n');
-        }
-        return state.toString();
-    }
-
-    private static void fortyActs() {
-        RingDater x = Tape.of("timber 0 2 10 20 15 30 25;timber 1 3 15 30 25 9;known 0 100;");
-        String[] states = new String[43];
-        for (int k = 0; k < 43; k++) {
-            states[k] = state(x);
-            switch (k % 5) {
-                case 0 -> x.date(0, k);
-                case 1 -> x.doubt(k % 2, k % 3);
-                case 2 -> x.move(k / 5 % 2, k % 4 == x.timber(k / 5 % 2, 11) ? 3 - k % 4 : k % 4);
-                case 3 -> x.mend(1, 1 + k % 3, true);
-                default -> x.mend(1, 1 + (k - 1) % 3, false);
-            }
-            due("acts kept", x.count(16), Math.min(k + 1, 40));
-        }
-        due("none was refused", x.count(20), 0);
-        for (int left = 39; left >= 0; left--) {
-            due("left", x.undo(), left);
-            due("as it was ahead of act " + (left + 3), state(x).equals(states[left + 3]) ? 1 : 0, 1);
-        }
-        due("none", x.undo(), NONE);
-    }
-
     private static void note() {
         RingDater x = Tape.of(TWO);
         due("no such timber", x.note(2, 5), NONE);
@@ -939,7 +859,7 @@ public final class PromiseTest {
         RingDater without = Tape.of("timber 0 0 5 6 7;");
         due("without a slide each is as great", without.chance(0, 5, 40, 0), 40);
         due("all together 0", without.chance(0, 5, 40, 2), 0);
-        // the draws of seed 1 are 80, 89, 15, so the row is 81 90 16: the chance of told rows, put by hand
+        // the draws of seed 1 are 8, 16, 15, so the row is 9 17 16: the chance of rows that are told as timbers
         int[] drawn = draws(1, 6);
         String rows = "timber 0 0 10 20 15;timber 0 0 " + drawn[0] + " " + drawn[1] + " " + drawn[2] + ";timber 0 0 "
                 + drawn[3] + " " + drawn[4] + " " + drawn[5] + ";lap 3;known 0 100;";
@@ -951,16 +871,6 @@ public final class PromiseTest {
         due("as great as 100", y.chance(0, 1, 2, 0), (first == 100 ? 1 : 0) + (second == 100 ? 1 : 0));
         due("as great as its own", y.chance(1, 1, 1, 0), 1);
         due("once", y.chance(1, 1, 1, 2), first);
-    }
-
-    private static int[] draws(long seed, int n) {
-        int[] drawn = new int[n];
-        long s = seed;
-        for (int i = 0; i < n; i++) {
-            s = (s * 1103515245L + 12345L) % (1L << 32);
-            drawn[i] = (int) (s / 65536 % 32768 % 99) + 1;
-        }
-        return drawn;
     }
 
     private static void told() {
@@ -993,13 +903,13 @@ public final class PromiseTest {
     private static void restoredActs() {
         RingDater x = Tape.of("timber 0 2 10 20 15 30 25;timber 1 3 15 30? 25 9;known 0 100;");
         String[] states = new String[4];
-        states[0] = state(x);
+        states[0] = Tape.timbers(x);
         x.mend(1, 1, false);
-        states[1] = state(x);
+        states[1] = Tape.timbers(x);
         x.date(0, 44);
-        states[2] = state(x);
+        states[2] = Tape.timbers(x);
         x.move(1, 2);
-        states[3] = state(x);
+        states[3] = Tape.timbers(x);
         x.image();
         for (int k = 0; k < 3; k++) {
             x.undo();
@@ -1009,7 +919,7 @@ public final class PromiseTest {
         x.doubt(1, 3);
         x.restore();
         for (int k = 3; k >= 0; k--) {
-            due("as it was ahead of act " + k, state(x).equals(states[k]) ? 1 : 0, 1);
+            due("as it was ahead of act " + k, Tape.timbers(x).equals(states[k]) ? 1 : 0, 1);
             x.undo();
         }
     }

@@ -33,4 +33,23 @@ final class Tape {
         }
         return x;
     }
+
+    /** A timber as the dater tells it, sign by sign. */
+    static String told(RingDater x, int timber) {
+        StringBuilder text = new StringBuilder();
+        int length = x.told(timber, RingDater.NONE);
+        for (int i = 0; i < length; i++) {
+            text.append((char) x.told(timber, i));
+        }
+        return text.toString();
+    }
+
+    /** All timbers: rings, years, houses. */
+    static String timbers(RingDater x) {
+        StringBuilder all = new StringBuilder();
+        for (int t = 0; t < x.count(0); t++) {
+            all.append(told(x, t)).append(" year ").append(x.timber(t, 4)).append(" house ").append(x.timber(t, 11)).append('\n');
+        }
+        return all.toString();
+    }
 }

@@ -9,6 +9,7 @@ public final class WildCallsTest {
 
     private final Random random;
     private RingDater x = new RingDater();
+    private int asked = 0;
 
     private WildCallsTest(long seed) {
         random = new Random(seed);
@@ -50,6 +51,10 @@ public final class WildCallsTest {
     }
 
     private void call(int k) {
+        asked++;
+        if (asked > 512) {
+            fresh();
+        }
         switch (k) {
             case 0 -> x.feed(any(), any(), any(), any(), any());
             case 1 -> yard();
@@ -90,7 +95,17 @@ public final class WildCallsTest {
             x.yard(any());
             return;
         }
-        x = way == 3 ? new RingDater() : x;
-        Tape.yard(x, way == 5 ? RandomTexts.spoilt(random) : RandomTexts.yard(random));
+        String text = way == 5 ? RandomTexts.spoilt(random) : RandomTexts.yard(random);
+        asked += (text.length() + 19) / 20;
+        if (way == 3 || asked > 512) {
+            fresh();
+        }
+        Tape.yard(x, text);
+    }
+
+    /** Nothing is promised of an object behind its 512th call. */
+    private void fresh() {
+        x = new RingDater();
+        asked = 46;
     }
 }

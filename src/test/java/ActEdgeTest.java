@@ -358,6 +358,16 @@ public final class ActEdgeTest extends Checks {
         due("dated", grown.count(4), 5);
         grown.undo();
         due("dated", grown.count(4), 4);
+        String told = "timber 0 0 " + LONG + ";";
+        for (int known = 0; known < 3; known++) {
+            RingDater rings = Tape.of(LIKE.repeat(3) + "known " + known + " 5;");
+            due("grown", rings.grow(), 2);
+            rings.undo();
+            due("those that it dated", rings.count(4), 1 << known);
+            for (int t = 0; t < 3; t++) {
+                due("the rings stay", Tape.told(rings, t), told);
+            }
+        }
     }
 
     private static void undoOfNone() {

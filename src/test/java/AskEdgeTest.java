@@ -1,3 +1,5 @@
+import java.util.Random;
+
 /** The boundary cases of promises 5 to 11, a sentence a time: what is asked of timbers, houses, rings and years. */
 public final class AskEdgeTest extends Checks {
     private static final String T = "timber 0 0 1 1 1;";
@@ -105,6 +107,18 @@ public final class AskEdgeTest extends Checks {
         RingDater dated = Tape.of(LIKE.repeat(2) + "known 0 5;known 1 800;");
         due("dated ones are linked too", dated.count(7), 1);
         due("nor do years speak against", dated.count(9), 0);
+        // 2 has the end of 0 and the beginning of 1, that lie elsewhere along one another; 3 is like 1
+        String one = "timber 0 0 10 40 30 35 20 60 70;";
+        String against = "lap 7;margin 0;bound 60;timber 0 0 10 40 30 35 20 60 70 15 80 25 50 45;" + one
+                + "timber 0 0 60 70 15 80 25 50 45 40 30 35 20 60 70;";
+        RingDater three = Tape.of(against);
+        due("three links", three.count(7), 3);
+        due("one piece", three.count(8), 1);
+        due("one speaks against", three.count(9), 1);
+        RingDater four = Tape.of(against + one);
+        due("six links", four.count(7), 6);
+        due("one piece", four.count(8), 1);
+        due("two speak against", four.count(9), 2);
     }
 
     private static RingDater felledBy(String lost0, String lost1) {
@@ -160,6 +174,11 @@ public final class AskEdgeTest extends Checks {
         due("the least fit", x.count(14), 2);
         x.date(2, NONE);
         due("it isn't dated any more", x.count(14), 0);
+        RingDater first = Tape.of("lap 3;timber 0 0 7 2 5 1;timber 0 0 1 5 2 7;timber 0 0 1 5 2 7;known 0 5;known 1 5;known 2 5;");
+        due("the least fit is that of 0", as01(first.timber(0, 10) < first.timber(1, 10)), 1);
+        due("the first is the odd one", first.count(14), 0);
+        RingDater between = Tape.of("lap 3;timber 0 0 1 5 2 7;timber 0 0 7 2 5 1;timber 0 0 1 5 2 7;known 0 5;known 1 5;known 2 5;");
+        due("the one between", between.count(14), 1);
     }
 
     private static void wouldBeDated() {
@@ -343,6 +362,104 @@ public final class AskEdgeTest extends Checks {
             due("place of " + t, x.timber(t, 7), places[t]);
         }
         due("pieces", x.count(8), 3);
+        joinedPieces();
+        placeIsLost();
+    }
+
+    /** Timbers of one wood, more or less: pieces, places and what speaks against are told by the links alone. */
+    private static void joinedPieces() {
+        // 0-2 by 2, 1-2 by 1, 0-3 by -1 are tied; 1-3 by 2 and 0-1 by -1 speak against, 2-3 by -3 doesn't
+        RingDater x = Tape.of("margin 0;bound 60;lap 5;timber 0 0 40 95 15 85 25 75 5 65;timber 0 0 50 10 70 20 90 30 60 40;"
+                + "timber 0 0 15 85 25 75 5 65 35;timber 0 0 70 20 90 30 60 40 95 15 85;");
+        int[] places = {0, 1, 2, -1};
+        for (int t = 0; t < 4; t++) {
+            due("least of " + t, x.timber(t, 6), 0);
+            due("place of " + t, x.timber(t, 7), places[t]);
+        }
+        due("two speak against", x.count(9), 2);
+        Random random = new Random(6);
+        int against = 0;
+        for (int k = 0; k < 60; k++) {
+            int[] row = new int[14];
+            for (int i = 0; i < row.length; i++) {
+                row[i] = 2 + random.nextInt(97);
+            }
+            StringBuilder text = new StringBuilder("margin 0;bound 60;lap 4;");
+            for (int t = 0; t < 6; t++) {
+                int from = random.nextInt(7);
+                text.append("timber 0 0");
+                for (int r = 0; r < 4 + random.nextInt(4); r++) {
+                    text.append(' ').append(random.nextInt(4) == 0 ? 50 : row[Math.min(13, from + r)]);
+                }
+                text.append(';');
+            }
+            against += asLinked(text.toString());
+        }
+        due("some speak against", as01(against > 0), 1);
+    }
+
+    private static int asLinked(String text) {
+        RingDater x = Tape.of(text);
+        int timbers = x.count(0);
+        int[][] links = new int[x.count(7)][5];
+        for (int i = 0; i < links.length; i++) {
+            for (int what = 0; what < 5; what++) {
+                links[i][what] = x.link(i, what);
+            }
+        }
+        Integer[] places = new Integer[timbers];
+        int[] leasts = new int[timbers];
+        int pieces = 0;
+        for (int t = 0; t < timbers; t++) {
+            if (places[t] == null) {
+                pieces++;
+                places[t] = 0;
+                leasts[t] = t;
+                for (int k = 0; k < timbers; k++) {
+                    spread(links, places, leasts);
+                }
+            }
+            due("least of " + t + " of " + text, x.timber(t, 6), leasts[t]);
+            due("place of " + t + " of " + text, x.timber(t, 7), places[t]);
+        }
+        int against = 0;
+        for (int[] link : links) {
+            against += as01(places[link[1]] - places[link[0]] != link[2]);
+        }
+        due("pieces of " + text, x.count(8), pieces);
+        due("against of " + text, x.count(9), against);
+        return against;
+    }
+
+    private static void spread(int[][] links, Integer[] places, int[] leasts) {
+        for (int[] link : links) {
+            int a = link[0];
+            int b = link[1];
+            if (link[4] == 1 && (places[a] == null) != (places[b] == null)) {
+                leasts[places[a] == null ? a : b] = leasts[places[a] == null ? b : a];
+                if (places[a] == null) {
+                    places[a] = places[b] - link[2];
+                } else {
+                    places[b] = places[a] + link[2];
+                }
+            }
+        }
+    }
+
+    private static void placeIsLost() {
+        RingDater x = Tape.of("lap 5;timber 0 0 10 40 30 35 20 60 70;timber 0 0 40 30 35 20 60;");
+        due("a place", x.timber(1, 7), 1);
+        due("of the piece of 0", x.timber(1, 6), 0);
+        x.doubt(1, 2);
+        x.doubt(1, 3);
+        x.doubt(1, 1);
+        due("the link is gone", x.count(7), 0);
+        due("so is its place", x.timber(1, 7), 0);
+        due("it is its own piece", x.timber(1, 6), 1);
+        x.undo();
+        x.undo();
+        x.undo();
+        due("it is there again", x.timber(1, 7), 1);
     }
 
     // ---- promise 7

@@ -111,14 +111,18 @@ public final class KeepEdgeTest extends Checks {
         x.doubt(0, 4);
         x.settle(9);
         x.note(0, 100);
-        x.note(2, NONE);
+        x.note(2, 900);
         x.note(9, 9);
         x.note(9, 9);
         return x;
     }
 
     private static void change(RingDater x) {
-        x.undo();
+        for (int k = 0; k < 5; k++) {
+            x.undo();
+        }
+        x.doubt(1, 2);
+        x.doubt(0, 3);
         x.date(0, NONE);
         x.date(2, NONE);
         x.mend(1, 1, true);
@@ -162,6 +166,7 @@ public final class KeepEdgeTest extends Checks {
         due("it is another one", as01(whole(x).equals(whole(before()))), 0);
         due("restored", as01(x.restore()), 1);
         due("all", whole(x), whole(before()));
+        due("what is noted is so by all", x.fits(0), 51);
         due("all acts", allUndone(x), allUndone(before()));
         RingDater at = before();
         at.image();

@@ -20,6 +20,7 @@ public final class NoteEdgeTest extends Checks {
         noteRefused();
         eightAreNoted();
         fitsByEachScore();
+        fitsAtTheEnds();
         fitsFromNowOn();
         fitsAsGrown();
         fitsRefused();
@@ -129,6 +130,25 @@ public final class NoteEdgeTest extends Checks {
         x.forget();
         x.note(1, 8);
         due("another year", x.fits(0), 0);
+        x.forget();
+        due("unlike by a score of " + score, x.look(1), dated == 0 || dated == 51 ? 1 : 2);
+        due("which", x.look(0), dated == 0 || dated == 51 ? 0 : 1);
+    }
+
+    private static void fitsAtTheEnds() {
+        says(25, "BOUNDS (50 to 100)");
+        // the signs are the same, one rank of ten is unlike by 1: 98, so 99; by 100 alone it isn't dated
+        RingDater most = Tape.of("lap 10;timber 0 0 10 40 30 35 20 60 70 15 80 25;timber 0 0 10 40 30 35 20 60 70 15 80 15;known 0 7;");
+        due("its score", most.best(1, NONE, 1), 99);
+        most.note(1, NONE);
+        due("one bound", most.fits(0), 1);
+        due("the greatest", most.fits(1), 100);
+        due("by it all are alike", most.look(1), 1);
+        most.forget();
+        due("by all it is unlike", most.look(0) * 10 + most.look(1), 12);
+        most.note(1, 7);
+        due("all other bounds", most.fits(0), 50);
+        due("the least", most.fits(1), 50);
     }
 
     private static void fitsFromNowOn() {

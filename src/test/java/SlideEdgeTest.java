@@ -189,9 +189,18 @@ public final class SlideEdgeTest extends Checks {
                 due("the other one of " + d[1] + " on " + d[0], x.best(1, on, 3), d[0] == 3 && d[1] == 3 ? NONE : 100);
             }
         }
-        // three like stretches: the least; a fourth ring more in the third one: that
         RingDater stretches = Tape.of("lap 3;margin 0;timber 0 0 5 9 6 1 1 1 1 5 9 6 1;timber 0 0 5 9 6;");
-        due("the least slide", stretches.best(1, 0, 0), 0);
+        due("of two like stretches the first", stretches.best(1, 0, 0), 0);
+        // 15 40 20 scores 94 at 0, for its 20 has a less one near; 100 at 5
+        String later = "lap 3;timber 0 0 15 40 20 18 95 15 30 25;timber 0 0 15 30 25;known 0 9;";
+        for (int on = NONE; on <= 0; on++) {
+            RingDater x = Tape.of("margin 6;" + later);
+            due("a greater one behind a less one", x.best(1, on, 0), 5);
+            due("its score", x.best(1, on, 1), 100);
+            due("the other one is ahead", x.best(1, on, 3), 94);
+            due("less by 6", x.best(1, on, 4), 0);
+            due("not by 7", Tape.of("margin 7;" + later).best(1, on, 4), 3);
+        }
     }
 
     private static void without() {
@@ -297,6 +306,17 @@ public final class SlideEdgeTest extends Checks {
             due("the one ahead of " + k + " is greater, or like it and earlier", as01(falls || like && later), 1);
             due("it is that of b on a", y.link(k, 2), y.best(y.link(k, 1), y.link(k, 0), 0));
             due("its score", y.link(k, 3), y.best(y.link(k, 1), y.link(k, 0), 1));
+        }
+        // 2 and 3 are like, 1 is unlike them at the end, 0 is more so
+        String row = "timber 0 0 10 40 30 35 20 60 55 15 80 25 50 45;";
+        RingDater rising = Tape.of("lap 10;timber 0 0 10 40 30 35 20 70 55 15 80 30 26 45;" + row.replace("50", "26") + row + row);
+        int[][] due = {{2, 3, 100, 1}, {0, 1, 92, 1}, {1, 2, 92, 1}, {1, 3, 92, 0}, {0, 2, 84, 0}, {0, 3, 84, 0}};
+        for (int k = 0; k < 6; k++) {
+            due("a of " + k, rising.link(k, 0), due[k][0]);
+            due("b of " + k, rising.link(k, 1), due[k][1]);
+            due("slide of " + k, rising.link(k, 2), 0);
+            due("score of " + k, rising.link(k, 3), due[k][2]);
+            due("tied " + k, rising.link(k, 4), due[k][3]);
         }
         due("a slide below 0", Tape.of("lap 5;timber 0 0 40 30 35 20 60 70;timber 0 0 10 40 30 35 20 60 70;").link(0, 2), -1);
     }

@@ -439,8 +439,14 @@ public final class TextEdgeTest extends Checks {
             dueFault(word.substring(1) + " 60;", 1, 0);
             dueFault(word.substring(0, word.length() - 1) + " 60;", 1, 0);
             dueFault(word + word, 1, 0);
+            for (int i = 0; i < word.length(); i++) {
+                char other = word.charAt(i) == 'q' ? 'p' : 'q';
+                dueFault(word.substring(0, i) + other + word.substring(i + 1) + " 60;", 1, 0);
+            }
             dueFault(word.toUpperCase() + " 60;", 1, 0);
         }
+        dueFault("qap 3;", 1, 0);
+        dueFault("laq 3;", 1, 0);
         due("digits end a word", Tape.of("timber0 0 1 1 1;known0 5;").timber(0, 4), 5);
         due("letters end a number", Tape.yard(new RingDater(), "timber 0 0 1 1 1;known 0 5x"), 1);
         dueFault("z", 1, 0);

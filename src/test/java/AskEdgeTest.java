@@ -190,6 +190,11 @@ public final class AskEdgeTest extends Checks {
         due("nor is it an act", x.count(16), 0);
         x.grow();
         due("none more", x.count(15), 0);
+        String only = "lap 3;timber 0 0 5 5 5;timber 0 0 1 2 3;known 0 5;";
+        due("58 by bound 58", Tape.of("bound 58;" + only).count(15), 1);
+        due("not by 59", Tape.of("bound 59;" + only).count(15), 0);
+        due("100 and 94 by margin 6", Tape.of(TWO.replace("margin 0", "margin 6")).count(15), 1);
+        due("not by 7", Tape.of(TWO.replace("margin 0", "margin 7")).count(15), 0);
         due("none of those that are known", Tape.of(LIKE.repeat(2) + "known 0 0;known 1 0;").count(15), 0);
     }
 
@@ -513,6 +518,15 @@ public final class AskEdgeTest extends Checks {
             due("reused", x.house(2, 3), reused[i]);
             due("the last", x.house(2, 2), lasts[i]);
             due("its timbers", x.house(2, 0), 7);
+        }
+        for (int first = 1; first <= 3; first++) {
+            int[] mosts = {0, 9, 9, 9};
+            mosts[first] = 4;
+            RingDater x = Tape.of("timber 0 0 1 2 3;timber 0 " + mosts[1] + " 1 2 3;timber 0 " + mosts[2] + " 1 2 3;timber 0 " + mosts[3]
+                    + " 1 2 3;known 1 100;known 2 100;known 3 100;");
+            due("the least of any most is that of " + first, x.house(0, 2), 106);
+            due("so it is for all", x.count(11), 106);
+            due("none is reused", x.house(0, 3), 0);
         }
         RingDater many = Tape.of("timber 0 0 1 2 3;".repeat(7) + "timber 1 1 1 2 3;"
                 + "known 0 9;known 1 9;known 2 9;known 3 9;known 4 9;known 5 9;known 6 9;known 7 9;");

@@ -392,6 +392,11 @@ public final class SlideEdgeTest extends Checks {
             due("one behind " + known[i], () -> y.grown(0, 1), behind[i] == NONE ? NO_SUCH : behind[i]);
             due("how many", y.count(15), as01(behind[i] != NONE));
         }
+        String only = "lap 3;timber 0 0 5 5 5;timber 0 0 1 2 3;known 0 5;";
+        due("58 by bound 58", () -> Tape.of("bound 58;" + only).grown(0, 2), 58);
+        due("none by 59", () -> Tape.of("bound 59;" + only).grown(0, 2), NO_SUCH);
+        due("100 and 94 by margin 6", () -> Tape.of(TWO.replace("margin 0", "margin 6")).grown(0, 2), 100);
+        due("none by 7", () -> Tape.of(TWO.replace("margin 0", "margin 7")).grown(0, 2), NO_SUCH);
         // 1 would score 100 a year ahead of 0; 2 scores less, but has a year
         RingDater less = Tape.of("lap 5;margin 0;timber 0 0 40 30 35 20 60 70;timber 0 0 10 40 30 35 20 60 70;timber 0 0 30 35 20 60 71 15;known 0 0;");
         due("the greatest score has no year", less.timber(1, 12), 4);
